@@ -630,8 +630,14 @@ public final class PromisesTest {
         }
         Check.due("write(0)", x.write(0), 1);
         Check.due("OUT is written anew", Check.out(x), "0");
+        Check.setAmount(x, 205);
+        Check.due("deposit(1)", x.deposit(1), 0);
+        Check.due("write(2), not the latest one", x.write(2), 2);
+        Check.due("OUT", Check.out(x), "31");
+        Check.due("write(1)", x.write(1), 3);
+        Check.due("OUT", Check.out(x), "205");
         Check.due("no write to the disk", x.count(3), 7);
-        Check.due("write touches nothing", x.count(5), 2);
+        Check.due("write touches nothing", x.count(5), 3);
     }
 
     private static void writeWhenDown() {
