@@ -6,10 +6,15 @@ public final class StopsTest {
     private static final BigInteger MOVED = new BigInteger("4999999999");
 
     public static void main(String[] args) {
+        Check.sentence("A STOP at each write of format()");
         for (int accounts = 2; accounts <= 24; accounts++) {
             formatCutAtEachWrite(accounts);
+        }
+        Check.sentence("A STOP at each write of commit()");
+        for (int accounts = 2; accounts <= 24; accounts++) {
             commitCutAtEachWrite(accounts);
         }
+        commitOfOneCutAtEachWrite();
         recoverCutAtEachWrite();
         recoverCutAgainAndAgain();
         formatOverCommittedLog();
@@ -25,7 +30,7 @@ public final class StopsTest {
         return x;
     }
 
-    /** All accounts and TOTAL are touched: MOVED goes from 0 to the last, and 0 is deposited to each. */
+    /** All accounts and TOTAL are touched: MOVED goes from 0 to the last, and 1 is deposited to each. */
     private static int touchAll(BigLedger x, int accounts) {
         Check.setAmount(x, MOVED);
         Check.due("transfer", x.transfer(0, accounts - 1), 0);
@@ -118,7 +123,24 @@ public final class StopsTest {
         }
     }
 
+    /** The smallest ledger, and the smallest commit there is: one block, whose balance stays. */
+    private static void commitOfOneCutAtEachWrite() {
+        Check.sentence("A STOP at each write of commit(), k being 1");
+        for (int stop = 0; stop <= 4; stop++) {
+            BigLedger x = Check.formatted(1, 1, 1);
+            Check.due("transfer(0, 0)", x.transfer(0, 0), 0);
+            x.stopAfter(stop);
+            Check.due("commit(), stop " + stop, x.commit(), stop == 4 ? 0 : 6);
+            Check.due("writes", x.count(3), 5 + stop);
+            Check.due("recover()", x.recover(), true);
+            Check.due("writes", x.count(3), 5 + stop + (stop == 2 || stop == 3 ? 2 : 0));
+            Check.due("balance", x.balanceSize(0), 0);
+            Check.due("touched", x.count(5), 0);
+        }
+    }
+
     private static void recoverCutAtEachWrite() {
+        Check.sentence("A STOP at each write of recover(), behind one at each write of commit()");
         int accounts = 5;
         int k = accounts + 1;
         for (int first = k + 1; first < 2 * k + 2; first++) {
@@ -146,6 +168,7 @@ public final class StopsTest {
     }
 
     private static void recoverCutAgainAndAgain() {
+        Check.sentence("STOPS at all writes of recover(), one behind the other");
         BigLedger x = started(3);
         int k = touchAll(x, 3);
         x.stopAfter(k + 1);
@@ -175,6 +198,7 @@ public final class StopsTest {
     }
 
     private static void formatOverCommittedLog() {
+        Check.sentence("A STOP at each write of format(), the log being COMMITTED");
         for (int stop = 0; stop <= 7; stop++) {
             BigLedger x = started(3);
             int k = touchAll(x, 3);
