@@ -112,31 +112,44 @@ public final class WritesTest {
         Check.due("up", x.count(4), 1);
     }
 
+    /** The STOP comes in format(), with the disk as it was, or in commit(), ahead of COMMITTED. */
+    private static void stopIn(boolean format, BigLedger x) {
+        if (format) {
+            Check.stop(x);
+        } else {
+            x.stopAfter(2);
+            Check.due("commit()", x.commit(), 6);
+        }
+    }
+
     private static void pendingIsLost() {
         Check.sentence("PENDING and all that is not on the disk are lost");
-        BigLedger x = pendingTwo();
-        Check.stop(x);
-        Check.due("touched", x.count(5), 0);
-        Check.due("recover()", x.recover(), true);
-        Check.due("touched", x.count(5), 0);
-        holds(x, 5);
-        int writes = x.count(3);
-        Check.due("commit()", x.commit(), 0);
-        Check.due("no write", x.count(3), writes);
-        holds(x, 5);
+        for (boolean format : new boolean[] {true, false}) {
+            BigLedger x = pendingTwo();
+            stopIn(format, x);
+            Check.due("touched, DOWN", x.count(5), 0);
+            Check.due("recover()", x.recover(), true);
+            Check.due("touched, up", x.count(5), 0);
+            holds(x, 5);
+            int writes = x.count(3);
+            Check.due("commit()", x.commit(), 0);
+            Check.due("no write", x.count(3), writes);
+            holds(x, 5);
+        }
     }
 
     private static void amountIsLost() {
         Check.sentence("the AMOUNT (0 then) is lost");
-        BigLedger x = pendingTwo();
-        x.stopAfter(2);
-        Check.due("commit()", x.commit(), 6);
-        Check.due("limbs, DOWN", x.count(8), 0);
-        Check.due("recover()", x.recover(), true);
-        Check.due("limbs, up", x.count(8), 0);
-        Check.due("amount(0)", x.amount(0), 0);
-        Check.due("deposit(0)", x.deposit(0), 0);
-        holds(x, 5);
+        for (boolean format : new boolean[] {true, false}) {
+            BigLedger x = pendingTwo();
+            stopIn(format, x);
+            Check.due("limbs, DOWN", x.count(8), 0);
+            Check.due("recover()", x.recover(), true);
+            Check.due("limbs, up", x.count(8), 0);
+            Check.due("amount(0)", x.amount(0), 0);
+            Check.due("deposit(0)", x.deposit(0), 0);
+            holds(x, 5);
+        }
     }
 
     private static void firstDown() {
